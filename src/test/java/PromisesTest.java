@@ -38,6 +38,8 @@ public final class PromisesTest {
         checkMakesNoTerms();
         checked();
         many();
+        leastName();
+        deepDefinition();
         objectsAreApart();
         DUE.end();
     }
@@ -650,6 +652,44 @@ public final class PromisesTest {
         due("many: defined", x.many(2), 2);
         due("many: folded", x.many(3), 1);
         due("many: closed", x.many(4), 2);
+    }
+
+    /** The least NAME has no lesser ones, but may stand for a PARAMETER. */
+    private static void leastName() {
+        LazyNames x = new LazyNames();
+        int first = x.name(2), c = x.name(0), s = x.name(1);
+        int tc = x.term(c, NONE, NONE), p0 = x.parameter(0);
+        int part = x.term(first, tc, x.term(s, tc, NONE));
+        due("least: define", x.define(first, p0), NONE);
+        due("least: defined", x.many(2), 1);
+        due("least: folded", x.many(3), 1);
+        due("least: closed", x.many(4), 3);
+        due("least: height", x.ofName(first, 3), 1);
+        x.define(s, x.term(first, p0, p0));
+        due("least: height above", x.ofName(s, 3), 2);
+        due("least: check", x.check(part, tc), 1);
+        told(x, "least", 1, 1, NONE, NONE, 1);
+        due("least: front", x.front(part), c);
+    }
+
+    /** A definition of DEPTH 4 with PARAMETERS at its deepest, PART 0 and PART 1 of each NAME. */
+    private static void deepDefinition() {
+        LazyNames x = new LazyNames();
+        int c = x.name(0), d = x.name(0), f = x.name(2), g = x.name(2), h = x.name(2);
+        int p0 = x.parameter(0), p1 = x.parameter(1);
+        int tc = x.term(c, NONE, NONE), td = x.term(d, NONE, NONE);
+        int low = x.term(f, p0, p1), mid = x.term(f, tc, low);
+        x.define(g, x.term(f, td, mid));
+        x.define(h, x.term(f, td, x.term(f, tc, x.term(f, p0, p0))));
+        int made = x.term(f, td, x.term(f, tc, x.term(f, tc, td)));
+        due("deep: as it was made", x.check(x.term(g, tc, td), made), 1);
+        told(x, "deep: as it was made", 1, 1, NONE, NONE, 1);
+        due("deep: unlike", x.check(x.term(g, tc, td), x.term(h, tc, td)), 0);
+        // both become f: (g, h), (f.., f..) and twice deeper down the second part, (d, c)
+        told(x, "deep: unlike", 2, 5, d, c, 0);
+        due("deep: of other depth", x.check(x.term(g, tc, x.term(f, tc, td)), x.term(g, tc, td)), 0);
+        // (g, g), (f(c, d), d): a clash; what comes: f, f, f, and (f(c, d), d) was judged
+        told(x, "deep: of other depth", 2, 5, f, d, 0);
     }
 
     private static void objectsAreApart() {

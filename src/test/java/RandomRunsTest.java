@@ -33,6 +33,10 @@ public final class RandomRunsTest {
         Thread runs = new Thread(null, () -> {
             for (int seed = 0; seed < RUNS && due.wrong() == 0; seed++) new RandomRunsTest(due, seed).run();
         }, "runs", 1L << 29);
+        runs.setUncaughtExceptionHandler((thread, thrown) -> {
+            thrown.printStackTrace();
+            due.due("a call threw " + thrown, false);
+        });
         runs.start();
         runs.join();
         System.out.println("checks of two terms: " + alike + " alike, " + unlike + " unlike, " + spent
@@ -65,9 +69,11 @@ public final class RandomRunsTest {
     private void grow() {
         int all = 2 + random.nextInt(11);
         tall = random.nextInt(2) == 0;
+        same("name(0)", own.name(0), other.name(0));
+        if (random.nextBoolean()) same("term(0, -9, -9)", own.term(0, NONE, NONE), other.term(0, NONE, NONE));
         for (int i = 0; i < 2; i++) same("parameter(" + i + ")", own.parameter(i), other.parameter(i));
-        for (int n = 0; n < all; n++) {
-            int arity = n == 0 ? 0 : n < undefined ? n % 3 : tall ? Math.min(2, random.nextInt(5)) : random.nextInt(3);
+        for (int n = 1; n < all; n++) {
+            int arity = n < undefined ? n % 3 : tall ? Math.min(2, random.nextInt(5)) : random.nextInt(3);
             same("name(" + arity + ")", own.name(arity), other.name(arity));
             if (n < undefined) continue;
             int x = grownTerm(n, arity, 2 + random.nextInt(3));
@@ -121,7 +127,7 @@ public final class RandomRunsTest {
     }
 
     private void callName() {
-        int arity = other.many(0) == 0 ? 0 : any(2);
+        int arity = other.many(0) == 0 && random.nextBoolean() ? 0 : any(2);
         same("name(" + arity + ")", own.name(arity), other.name(arity));
     }
 

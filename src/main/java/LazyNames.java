@@ -538,7 +538,6 @@ public final class LazyNames {
         }
 
         private void start() {
-            terms.dropNotMade();
             Arrays.fill(judgments, 0L);
             open = 0;
             unfoldings = 0;

@@ -229,15 +229,11 @@ public final class EmptyCasesTest {
         x.define(d, tc);
         for (int term : new int[] {tc, td, sd}) {
             due("same: alike", x.check(term, term), 1);
-            told(x, "same", 0, 0, NONE, NONE, 1);
+            x.told("same", 0, 0, NONE, NONE, 1);
         }
         x.opaque(d, true);
         due("same: opaque", x.check(td, td), 1);
-        told(x, "same: opaque", 0, 0, NONE, NONE, 1);
-    }
-
-    private static void told(Used x, String of, int... want) {
-        for (int what = 0; what < want.length; what++) due(of + ": checked " + what, x.checked(what), want[what]);
+        x.told("same: opaque", 0, 0, NONE, NONE, 1);
     }
 
     /** "(x's, y's; NONE: there was none, or it found them ALIKE)" */
@@ -248,16 +244,16 @@ public final class EmptyCasesTest {
         x.define(e, td);
         x.define(k, tc);
         due("clash: there was none", x.check(td, te), 1);
-        told(x, "clash: there was none", 1, 1, NONE, NONE, 1);
+        x.told("clash: there was none", 1, 1, NONE, NONE, 1);
         due("clash: there was one, but alike", x.check(x.of(k, tc), x.of(k, td)), 1);
-        told(x, "clash: there was one, but alike", 2, 2, NONE, NONE, 1);
+        x.told("clash: there was one, but alike", 2, 2, NONE, NONE, 1);
         due("clash: there was one, and unlike", x.check(tc, td), 0);
-        told(x, "clash: there was one, and unlike", 0, 1, c, d, 0);
+        x.told("clash: there was one, and unlike", 0, 1, c, d, 0);
         due("clash: behind an unfolding", x.check(tc, te), 0);
-        told(x, "clash: behind an unfolding", 1, 2, c, d, 0);
+        x.told("clash: behind an unfolding", 1, 2, c, d, 0);
         // NAME 0 is a NAME, and not NONE.
         due("clash: y is name 0", x.check(td, tc), 0);
-        told(x, "clash: y is name 0", 0, 1, d, c, 0);
+        x.told("clash: y is name 0", 0, 1, d, c, 0);
     }
 
     /** A CHECK tells nothing of a CLASH of the CHECK ahead of it. */
@@ -266,13 +262,13 @@ public final class EmptyCasesTest {
         int c = x.name(0), d = x.name(0), e = x.name(0), tc = x.of(c), td = x.of(d), te = x.of(e);
         x.define(e, tc);
         due("ahead: unlike", x.check(tc, td), 0);
-        told(x, "ahead: unlike", 0, 1, c, d, 0);
+        x.told("ahead: unlike", 0, 1, c, d, 0);
         due("ahead: alike", x.check(tc, te), 1);
-        told(x, "ahead: alike", 1, 1, NONE, NONE, 1);
+        x.told("ahead: alike", 1, 1, NONE, NONE, 1);
         due("ahead: unlike again", x.check(td, te), 0);
-        told(x, "ahead: unlike again", 1, 2, d, c, 0);
+        x.told("ahead: unlike again", 1, 2, d, c, 0);
         due("ahead: the same", x.check(td, td), 1);
-        told(x, "ahead: the same", 0, 0, NONE, NONE, 1);
+        x.told("ahead: the same", 0, 0, NONE, NONE, 1);
     }
 
     /** "Of the latest CHECK that was not refused" */
@@ -285,10 +281,10 @@ public final class EmptyCasesTest {
         due("latest: unlike", x.check(sc, tc), 0);
         for (int refused : new int[] {Integer.MIN_VALUE, -1, 3, Integer.MAX_VALUE}) {
             due("latest: unknown", x.check(refused, tc), UNKNOWN);
-            told(x, "latest: kept", 0, 1, s, c, 0);
+            x.told("latest: kept", 0, 1, s, c, 0);
         }
         due("latest: state", x.check(tc, p0), STATE);
-        told(x, "latest: kept still", 0, 1, s, c, 0);
+        x.told("latest: kept still", 0, 1, s, c, 0);
     }
 
     /** "(SPENT is)": a CHECK that is SPENT is refused, and not the latest. */
@@ -300,12 +296,12 @@ public final class EmptyCasesTest {
         for (int what = 0; what <= 4; what++) due("spent: there was none", x.checked(what), STATE);
         due("spent: an answer", x.check(k, c), 1);
         due("spent: again", x.check(c, at41), SPENT);
-        told(x, "spent: the latest is ahead of it", 1, 1, NONE, NONE, 1);
+        x.told("spent: the latest is ahead of it", 1, 1, NONE, NONE, 1);
         int fk = x.of(1, k, k);
         due("spent: unlike", x.check(k, fk), 0);
-        told(x, "spent: unlike", 1, 2, 0, 1, 0);
+        x.told("spent: unlike", 1, 2, 0, 1, 0);
         due("spent: with a clash ahead", x.check(at41, c), SPENT);
-        told(x, "spent: the clash is told still", 1, 2, 0, 1, 0);
+        x.told("spent: the clash is told still", 1, 2, 0, 1, 0);
     }
 
     /** What is told of a CHECK does not follow what is DEFINED after it. */
@@ -316,11 +312,11 @@ public final class EmptyCasesTest {
         x.define(d, tc);
         x.name(2);
         x.parameter(1);
-        told(x, "as it was", 0, 1, d, c, 0);
+        x.told("as it was", 0, 1, d, c, 0);
         due("as it was: alike", x.check(td, tc), 1);
         x.opaque(d, true);
         x.define(d, NONE);
-        told(x, "as it was, alike", 1, 1, NONE, NONE, 1);
+        x.told("as it was, alike", 1, 1, NONE, NONE, 1);
     }
 
     private static void manyOfNothing() {

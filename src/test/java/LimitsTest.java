@@ -1,4 +1,4 @@
-/** The limits that the document names, each at its boundary and a step to each side, with answers worked out by hand. */
+/** The limits that the document names, each at its boundary and a step to each side, worked out by hand. */
 public final class LimitsTest {
     private static final int UNKNOWN = -1, STATE = -3, FULL = -4, SPENT = -6, NONE = -9;
     private static final long MOST = 1000000000000000L;
@@ -24,6 +24,8 @@ public final class LimitsTest {
         heightsOfOpaqueNames();
         unfoldedOfAnyDepth();
         checksOfAnyDepth();
+        checksOfManyPairsUnderWay();
+        checksOfManyTermsNotMade();
         fortyUnfoldings();
         fortyByTwoAtOnce();
         spentAsSoonAs();
@@ -97,7 +99,7 @@ public final class LimitsTest {
         }
     }
 
-    /** "TERMS that were made, 90 at most, are numbered from 0 on [..]; one that was made already [..] has its number" */
+    /** "TERMS that were made, 90 at most, are numbered from 0 on [..]; one that was made already [..]" */
     private static void ninetyTerms() {
         Used x = new Used(DUE);
         Scenes.terms(x, 12);
@@ -314,24 +316,76 @@ public final class LimitsTest {
         x.define(s27, x.chain(p0, s9, s9, s9));
         x.define(t9, x.chain(p0, s3, s3, s3));
         due("any depth: alike at once", x.check(x.of(s9, tc), x.of(t9, tc)), 1);
-        told(x, "any depth: alike at once", 2, 1, NONE, NONE, 1);
+        x.told("any depth: alike at once", 2, 1, NONE, NONE, 1);
         due("any depth: one s9", x.check(x.of(s9, tc), x.of(s9, td)), 0);
         // (s9, s9), (c, d): a clash. Both become s3(s3(s3(.))), with three pairs of s3 in front down to (c, d). From
         // the innermost on each becomes s(s(s(.))), with three pairs down to what was judged already.
-        told(x, "any depth: one s9", 2 + 3 * 2, 2 + 3 + 3 * 3, c, d, 0);
+        x.told("any depth: one s9", 2 + 3 * 2, 2 + 3 + 3 * 3, c, d, 0);
         // Each further s9 takes as much, but for (c, d); s27 takes one pair and two UNFOLDINGS.
         due("any depth: two s9", x.check(x.chain(tc, s9, s9), x.chain(td, s9, s9)), 0);
-        told(x, "any depth: two s9", 16, 27, c, d, 0);
+        x.told("any depth: two s9", 16, 27, c, d, 0);
         due("any depth: four s9", x.check(x.chain(tc, s27, s9), x.chain(td, s27, s9)), 0);
-        told(x, "any depth: four s9", 34, 54, c, d, 0);
+        x.told("any depth: four s9", 34, 54, c, d, 0);
         int five = x.chain(tc, s27, s9, s9), fiveToo = x.chain(td, s27, s9, s9), made = x.many(1);
         due("any depth: five s9", x.check(five, fiveToo), SPENT);
         due("any depth: none was made", x.many(1), made);
         due("any depth: the next", x.of(t9, td), made);
     }
 
-    private static void told(Used x, String of, int... want) {
-        for (int what = 0; what < want.length; what++) due(of + ": " + what, x.checked(what), want[what]);
+    /** Far down PART 0 in each UNFOLDING, so that many pairs wait for what comes below them. */
+    private static void checksOfManyPairsUnderWay() {
+        Used x = new Used(DUE);
+        int c = x.name(0), k = x.name(0), f = x.name(2), a = x.name(1), b = x.name(1), a3 = x.name(1), b3 = x.name(1);
+        int a9 = x.name(1), b9 = x.name(1), p0 = x.parameter(0), tc = x.of(c), tk = x.of(k);
+        x.define(k, tc);
+        x.define(a, x.of(f, x.of(f, x.of(f, p0, tk), tk), tk));
+        x.define(b, x.of(f, x.of(f, x.of(f, p0, tc), tc), tc));
+        x.define(a3, x.chain(p0, a, a, a));
+        x.define(b3, x.chain(p0, b, b, b));
+        x.define(a9, x.chain(p0, a3, a3, a3));
+        x.define(b9, x.chain(p0, b3, b3, b3));
+        int left = x.chain(tk, a9, a3, a), right = x.chain(tc, b9, b3, b);
+        // By k each a is higher by 1 than its b: five times, at (a3, b9) and four times at (a, b3), both are UNFOLDED,
+        // else one. There are 13 of a, 4 of a3, 1 of a9, as many of b, and three pairs of f for each a; at last (k, c).
+        due("under way: alike", x.check(left, right), 1);
+        x.told("under way: alike", 2 * 18 + 1, 2 * 18 - 5 + 3 * 13 + 1, NONE, NONE, 1);
+        // Now each a is as high as its b: both are UNFOLDED each time.
+        x.opaque(k, true);
+        due("under way: unlike", x.check(left, right), 0);
+        x.told("under way: unlike", 2 * 18, 18 + 3 * 13 + 1, k, c, 0);
+    }
+
+    /** Seven TERMS that were not made come by almost each UNFOLDING, and 90 are made. */
+    private static void checksOfManyTermsNotMade() {
+        Used x = new Used(DUE);
+        int c = x.name(0), k = x.name(0), f = x.name(2), h = x.name(2), tc = x.of(c), tk = x.of(k);
+        x.define(k, tc);
+        int v = wide(x, f, h, tc, tk), w = wide(x, f, h, tc, tk);
+        // Pairwise alike, as k is c.
+        int left = x.of(v, x.of(h, tc, tc), x.of(f, tc, tc)), right = x.of(w, x.of(h, tc, tk), x.of(f, tc, tk));
+        for (int i = 0; x.many(1) < 90; i++) x.of(i % 2 == 0 ? v : w, i / 2 % 9, i / 2 / 9);
+        due("not made: alike", x.check(left, right), 1);
+        // g: 2 a pair; two of them and more: 2 + 4 * 2; z: 2 + 2 * 10; all: 2 + 22 + 10 + 2, and k against c.
+        due("not made: unfoldings", x.checked(0), 37);
+        due("not made: as many as before", x.many(1), 90);
+        due("not made: the other way round", x.check(right, left), 1);
+        due("not made: unfoldings, the other way round", x.checked(0), 37);
+        x.opaque(k, true);
+        due("not made: unlike", x.check(left, right), 0);
+        // all, z, four, g: two UNFOLDINGS each; from there on down PART 0 to (f(p, p), ..), (h(c, c), h(c, k)), (c, k).
+        x.told("not made: unlike", 8, 15, c, k, 0);
+    }
+
+    /** A NAME with four FOLDED ones about f and h below it, as wide as definitions are. */
+    private static int wide(Used x, int f, int h, int tc, int tk) {
+        int p0 = x.parameter(0), p1 = x.parameter(1);
+        int g = x.name(2), four = x.name(2), z = x.name(2), all = x.name(2);
+        x.define(g, x.of(f, x.of(f, x.of(f, p0, p1), x.of(h, p0, p1)), x.of(f, x.of(f, p1, p0), x.of(h, p1, p0))));
+        x.define(four, x.of(f, x.of(f, x.of(g, p0, tc), x.of(g, p0, tk)), x.of(f, x.of(g, p1, tc), x.of(g, p1, tk))));
+        int low = x.of(four, x.of(f, p0, p0), x.of(h, p0, p0)), high = x.of(four, x.of(f, p1, p1), x.of(h, p1, p1));
+        x.define(z, x.of(f, low, high));
+        x.define(all, x.of(f, x.of(f, x.of(z, p0, p1), x.of(four, p0, p1)), x.of(f, x.of(g, p0, p1), p1)));
+        return all;
     }
 
     // ==== 2
@@ -343,21 +397,21 @@ public final class LimitsTest {
         int c = Scenes.CHAIN_C, i = Scenes.I;
         int at38 = x.of(Scenes.COST38, c), at39 = x.of(Scenes.COST39, c), at40 = x.of(Scenes.COST40, c);
         due("forty: 38", x.check(at38, c), 1);
-        told(x, "forty: 38", 38, 38, NONE, NONE, 1);
+        x.told("forty: 38", 38, 38, NONE, NONE, 1);
         due("forty: 39", x.check(at39, c), 1);
-        told(x, "forty: 39", 39, 39, NONE, NONE, 1);
+        x.told("forty: 39", 39, 39, NONE, NONE, 1);
         due("forty: 40", x.check(at40, c), 1);
-        told(x, "forty: 40", 40, 40, NONE, NONE, 1);
+        x.told("forty: 40", 40, 40, NONE, NONE, 1);
         due("forty: 40 by y", x.check(c, at40), 1);
-        told(x, "forty: 40 by y", 40, 40, NONE, NONE, 1);
+        x.told("forty: 40 by y", 40, 40, NONE, NONE, 1);
         due("forty: 40, one more about 39", x.check(x.of(i, at39), c), 1);
-        told(x, "forty: 40, one more about 39", 40, 40, NONE, NONE, 1);
+        x.told("forty: 40, one more about 39", 40, 40, NONE, NONE, 1);
         int at41 = x.of(i, at40), at42 = x.of(i, at41);
         due("forty: 41", x.check(at41, c), SPENT);
         due("forty: 41 by y", x.check(c, at41), SPENT);
         due("forty: 42", x.check(at42, c), SPENT);
         due("forty: 79", x.check(x.of(Scenes.COST39, at40), c), SPENT);
-        told(x, "forty: as before", 40, 40, NONE, NONE, 1);
+        x.told("forty: as before", 40, 40, NONE, NONE, 1);
         due("forty: the limit is not used up", x.check(at40, c), 1);
         // size and front go as far as it takes.
         due("forty: unfoldings of 42", x.size(at42, 3), 42);
@@ -372,19 +426,19 @@ public final class LimitsTest {
         int c = Scenes.CHAIN_C, f = 1, k = x.of(Scenes.K), k2 = x.of(Scenes.K2);
         int at38 = x.of(Scenes.COST38, c), at39 = x.of(Scenes.COST39, c), at40 = x.of(Scenes.COST40, c);
         due("two: 38 and two", x.check(x.of(f, at38, k), x.of(f, c, k2)), 1);
-        told(x, "two: 38 and two", 40, 40, NONE, NONE, 1);
+        x.told("two: 38 and two", 40, 40, NONE, NONE, 1);
         due("two: two and 38", x.check(x.of(f, k, at38), x.of(f, k2, c)), 1);
-        told(x, "two: two and 38", 40, 40, NONE, NONE, 1);
+        x.told("two: two and 38", 40, 40, NONE, NONE, 1);
         due("two: 39 and one", x.check(x.of(f, at39, k), x.of(f, c, c)), 1);
-        told(x, "two: 39 and one", 40, 41, NONE, NONE, 1);
+        x.told("two: 39 and one", 40, 41, NONE, NONE, 1);
         due("two: 39 and two", x.check(x.of(f, at39, k), x.of(f, c, k2)), SPENT);
         due("two: two and 39", x.check(x.of(f, k, at39), x.of(f, k2, c)), SPENT);
         due("two: 40 and one", x.check(x.of(f, at40, k), x.of(f, c, c)), SPENT);
         due("two: one and 40", x.check(x.of(f, k, at40), x.of(f, c, c)), SPENT);
         due("two: 40 and two", x.check(x.of(f, at40, k), x.of(f, c, k2)), SPENT);
-        told(x, "two: as before", 40, 41, NONE, NONE, 1);
+        x.told("two: as before", 40, 41, NONE, NONE, 1);
         due("two: 40 and none", x.check(x.of(f, at40, k), x.of(f, c, k)), 1);
-        told(x, "two: 40 and none", 40, 41, NONE, NONE, 1);
+        x.told("two: 40 and none", 40, 41, NONE, NONE, 1);
     }
 
     /** An unlike pair ends a CHECK ahead of what would be SPENT, but not if it stands behind it. */
@@ -394,14 +448,14 @@ public final class LimitsTest {
         int c = Scenes.CHAIN_C, f = 1, fc = x.of(f, c, c);
         int at40 = x.of(Scenes.COST40, c), at41 = x.of(Scenes.I, at40);
         due("soon: unlike ahead of 41", x.check(x.of(f, c, at41), x.of(f, fc, c)), 0);
-        told(x, "soon: unlike ahead of 41", 0, 2, 0, f, 0);
+        x.told("soon: unlike ahead of 41", 0, 2, 0, f, 0);
         due("soon: unlike behind 41", x.check(x.of(f, at41, c), x.of(f, c, fc)), SPENT);
         due("soon: unlike behind 40", x.check(x.of(f, at40, c), x.of(f, c, fc)), 0);
-        told(x, "soon: unlike behind 40", 40, 42, 0, f, 0);
+        x.told("soon: unlike behind 40", 40, 42, 0, f, 0);
         due("soon: the same 41 are not unfolded", x.check(at41, at41), 1);
-        told(x, "soon: the same 41 are not unfolded", 0, 0, NONE, NONE, 1);
+        x.told("soon: the same 41 are not unfolded", 0, 0, NONE, NONE, 1);
         due("soon: parts alike, so nothing is unfolded", x.check(x.of(f, at41, x.of(Scenes.K)), x.of(f, at41, c)), 1);
-        told(x, "soon: parts alike, so nothing is unfolded", 1, 2, NONE, NONE, 1);
+        x.told("soon: parts alike, so nothing is unfolded", 1, 2, NONE, NONE, 1);
     }
 
     /** "JUDGED are pairs that are not the same TERM and were not judged ahead (each once)." */
@@ -411,16 +465,16 @@ public final class LimitsTest {
         int c = Scenes.CHAIN_C, f = 1, at40 = x.of(Scenes.COST40, c), k = x.of(Scenes.K), k2 = x.of(Scenes.K2);
         // Judged anew, the second would be more than 40.
         due("once: 40 and the same 40", x.check(x.of(f, at40, at40), x.of(f, c, c)), 1);
-        told(x, "once: 40 and the same 40", 40, 41, NONE, NONE, 1);
+        x.told("once: 40 and the same 40", 40, 41, NONE, NONE, 1);
         due("once: 40 and the same 40 the other way round", x.check(x.of(f, at40, c), x.of(f, c, at40)), SPENT);
         due("once: no pair", x.check(k, k), 1);
-        told(x, "once: no pair", 0, 0, NONE, NONE, 1);
+        x.told("once: no pair", 0, 0, NONE, NONE, 1);
         due("once: one pair", x.check(k, k2), 1);
-        told(x, "once: one pair", 2, 1, NONE, NONE, 1);
+        x.told("once: one pair", 2, 1, NONE, NONE, 1);
         due("once: two pairs, one of them twice", x.check(x.of(f, k, k), x.of(f, k2, k2)), 1);
-        told(x, "once: two pairs, one of them twice", 2, 2, NONE, NONE, 1);
+        x.told("once: two pairs, one of them twice", 2, 2, NONE, NONE, 1);
         due("once: three pairs", x.check(x.of(f, k, k2), x.of(f, k2, k)), 1);
-        told(x, "once: three pairs", 4, 3, NONE, NONE, 1);
+        x.told("once: three pairs", 4, 3, NONE, NONE, 1);
     }
 
     /** "was judged in this CHECK already": not in one ahead of it. */
@@ -430,12 +484,12 @@ public final class LimitsTest {
         due("this check: unlike", x.check(tc, td), 0);
         x.define(d, tc);
         due("this check: alike now", x.check(tc, td), 1);
-        told(x, "this check: alike now", 1, 1, NONE, NONE, 1);
+        x.told("this check: alike now", 1, 1, NONE, NONE, 1);
         x.opaque(d, true);
         due("this check: unlike again", x.check(tc, td), 0);
-        told(x, "this check: unlike again", 0, 1, c, d, 0);
+        x.told("this check: unlike again", 0, 1, c, d, 0);
         due("this check: the other way round", x.check(td, tc), 0);
-        told(x, "this check: the other way round", 0, 1, d, c, 0);
+        x.told("this check: the other way round", 0, 1, d, c, 0);
     }
 
     /** "that of the greater HEIGHT, both, if their HEIGHTS are the same": one apart to each side, and the same. */
@@ -457,7 +511,7 @@ public final class LimitsTest {
             for (int j = 1; j < 4; j++) {
                 due("apart: alike", x.check(row[i], other[j]), 1);
                 // The greater comes down to the lesser one by one; then both go down together, and meet in c.
-                told(x, "apart: " + i + ", " + j, i + j, Math.max(i, j), NONE, NONE, 1);
+                x.told("apart: " + i + ", " + j, i + j, Math.max(i, j), NONE, NONE, 1);
             }
         }
     }

@@ -17,7 +17,7 @@ public final class RefusalsTest {
     private static final Scene FEW = new Scene(DUE, "few", Scenes::few);
     private static final Scene ALL_NAMES = new Scene(DUE, "all names", Scenes::allNames);
     private static final Scene ALL_TERMS = new Scene(DUE, "all terms", Scenes::allTerms);
-    private static final Scene WITH_PARAMETER = new Scene(DUE, "all terms and a parameter", Scenes::allTermsAndParameter);
+    private static final Scene WITH_PARAMETER = new Scene(DUE, "a parameter last", Scenes::allTermsAndParameter);
     private static final Scene CHAINS = new Scene(DUE, "chains", Scenes::chains);
     private static final Scene[] SCENES = {NOTHING, FEW, ALL_NAMES, ALL_TERMS, WITH_PARAMETER, CHAINS};
 

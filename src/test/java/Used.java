@@ -84,6 +84,13 @@ final class Used {
         return (int) same("checked(" + what + ")", own.checked(what), other.checked(what));
     }
 
+    /** What is told of the latest CHECK: UNFOLDINGS, JUDGED pairs, the NAMES of its last CLASH, the answer. */
+    void told(String of, int... want) {
+        for (int what = 0; what < want.length; what++) {
+            due.due(of + ": checked(" + what + ")", checked(what), want[what]);
+        }
+    }
+
     int many(int what) {
         return (int) same("many(" + what + ")", own.many(what), other.many(what));
     }

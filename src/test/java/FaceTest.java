@@ -1,9 +1,14 @@
 import java.io.IOException;
+import java.lang.reflect.Array;
 import java.lang.reflect.Field;
 import java.lang.reflect.Method;
 import java.lang.reflect.Modifier;
 import java.nio.file.Files;
 import java.nio.file.Path;
+import java.util.ArrayList;
+import java.util.Collections;
+import java.util.IdentityHashMap;
+import java.util.List;
 import java.util.Set;
 import java.util.TreeSet;
 import java.util.regex.Matcher;
@@ -19,16 +24,24 @@ public final class FaceTest {
     private static final Set<String> CONSTANTS = Set.of("int UNKNOWN", "int OUTSIDE", "int STATE", "int FULL",
         "int SPENT", "int NONE", "long LOST");
 
-    public static void main(String[] args) throws IOException {
+    // What an object may take: far below the room of a run, which is 600,000 objects and 7,300,000 elements.
+    private static final int MOST_OBJECTS = 40;
+    private static final int MOST_ELEMENTS = 8000;
+
+    public static void main(String[] args) throws IOException, IllegalAccessException {
         face();
         staticFields(LazyNames.class);
+        counts(LazyNames.class);
+        DUE.due("more than twelve classes", LazyNames.class.getDeclaredClasses().length < 12);
         for (Class<?> inside : LazyNames.class.getDeclaredClasses()) {
+            counts(inside);
             DUE.due(inside + " is not static", Modifier.isStatic(inside.getModifiers()));
             DUE.due(inside + " is public or protected",
                 !Modifier.isPublic(inside.getModifiers()) && !Modifier.isProtected(inside.getModifiers()));
             staticFields(inside);
         }
         source(Files.readString(Path.of("src/main/java/LazyNames.java")));
+        room();
         DUE.end();
     }
 
@@ -66,6 +79,64 @@ public final class FaceTest {
         }
     }
 
+    private static void counts(Class<?> of) {
+        int fields = 0;
+        for (Field field : of.getDeclaredFields()) if (!Modifier.isStatic(field.getModifiers())) fields++;
+        DUE.due(of + " has " + fields + " fields", fields <= 20);
+        for (Method method : of.getDeclaredMethods()) {
+            DUE.due(method + " takes too many", method.getParameterCount() <= 7);
+        }
+    }
+
+    /** All that an object holds is made with it, and no call makes anything: so it is the same at the end. */
+    private static void room() throws IllegalAccessException {
+        LazyNames x = new LazyNames();
+        Set<Object> atFirst = heldBy(x);
+        DUE.due("an object holds " + atFirst.size() + " objects", atFirst.size() <= MOST_OBJECTS);
+        long elements = 0;
+        for (Object held : atFirst) elements += elementsOf(held);
+        DUE.due("an object holds " + elements + " elements", elements <= MOST_ELEMENTS);
+        useAll(x);
+        Set<Object> atLast = heldBy(x);
+        DUE.due("calls made objects", atLast.size() == atFirst.size() && atLast.containsAll(atFirst));
+    }
+
+    private static void useAll(LazyNames x) {
+        for (int n = 0; n <= 12; n++) x.name(n % 3);
+        int c = x.term(0, LazyNames.NONE, LazyNames.NONE);
+        for (int i = 0; i < 72; i++) x.term(i % 4 * 3 + 2, i / 9, i % 9);
+        int closed = x.many(1), p = x.parameter(0), unfoldings = 0;
+        for (int n = 5; n < 12; n += 3) x.define(n, x.term(n - 3, p, x.term(n - 3, p, c)));
+        for (int at = 0; at < closed; at++) {
+            for (int step = 1; step < 5; step++) {
+                if (x.check(at, (at + step) % closed) >= 0) unfoldings += x.checked(0);
+            }
+            x.size(at, at % 4);
+            x.front(at);
+        }
+        DUE.due("few unfoldings: " + unfoldings, unfoldings > 100);
+    }
+
+    private static Set<Object> heldBy(Object first) throws IllegalAccessException {
+        Set<Object> held = Collections.newSetFromMap(new IdentityHashMap<>());
+        List<Object> open = new ArrayList<>(List.of(first));
+        while (!open.isEmpty()) {
+            Object at = open.remove(open.size() - 1);
+            if (at == null || !held.add(at)) continue;
+            if (at instanceof Object[] row) open.addAll(List.of(row));
+            for (Field field : at.getClass().getDeclaredFields()) {
+                if (Modifier.isStatic(field.getModifiers()) || field.getType().isPrimitive()) continue;
+                field.setAccessible(true);
+                open.add(field.get(at));
+            }
+        }
+        return held;
+    }
+
+    private static int elementsOf(Object held) {
+        return held.getClass().isArray() ? Array.getLength(held) : held.getClass().getDeclaredFields().length;
+    }
+
     private static void source(String text) {
         String code = text.replaceAll("(?s)/\\*.*?\\*/", "").replaceAll("//[^\n]*", "");
         for (String word : new String[] {"throw", "throws", "try", "catch", "synchronized", "assert", "package",
@@ -77,6 +148,14 @@ public final class FaceTest {
         while (imports.find()) DUE.due("import " + imports.group(1), imports.group(1).equals("java.util.Arrays"));
         DUE.due("a sign beyond 127", text.chars().allMatch(sign -> sign < 128));
         methodsStayShort(text);
+        objectsComeWithConstructors(code);
+    }
+
+    private static void objectsComeWithConstructors(String code) {
+        Pattern field = Pattern.compile(" +private final [\\w\\[\\]]+ \\w+ = new [^;]*;");
+        Pattern own = Pattern.compile(" +(terms|names|checker) = new [^;]*;");
+        code.lines().filter(line -> Pattern.compile("\\bnew\\b").matcher(line).find()).forEach(line ->
+            DUE.due("made by a call:" + line, field.matcher(line).matches() || own.matcher(line).matches()));
     }
 
     private static void methodsStayShort(String text) {

@@ -41,6 +41,7 @@ public final class PromisesTest {
         leastName();
         deepDefinition();
         objectsAreApart();
+        exampleOfReadme();
         DUE.end();
     }
 
@@ -699,5 +700,24 @@ public final class PromisesTest {
         due("apart: names", y.many(0), 0);
         due("apart: terms", y.many(1), 0);
         due("apart: checked", y.checked(4), STATE);
+    }
+
+    /** README.md's example, line by line. */
+    private static void exampleOfReadme() {
+        LazyNames x = new LazyNames();
+        int c = x.name(0), s = x.name(1), two = x.name(1);
+        int p = x.parameter(0);
+        due("readme: define", x.define(two, x.term(s, x.term(s, p, -9), -9)), NONE);
+        int zero = x.term(c, -9, -9);
+        int a = x.term(two, zero, -9);
+        int b = x.term(s, x.term(s, zero, -9), -9);
+        due("readme: check", x.check(a, b), 1);
+        due("readme: unfoldings", x.checked(0), 1);
+        due("readme: size of the whole", x.size(a, 2), 3);
+        due("readme: front", x.front(a), s);
+        due("readme: opaque", x.opaque(two, true), 1);
+        due("readme: check, then", x.check(a, b), 0);
+        due("readme: x's name of the clash", x.checked(2), two);
+        due("readme: y's name of the clash", x.checked(3), s);
     }
 }
